@@ -363,22 +363,23 @@ public final class TollAlmanac {
             kinds = new int[TAPE_ROOM + 1];
             places = new int[TAPE_ROOM + 1];
             contents = new long[TAPE_ROOM + 1];
-            words = new long[WORDS];
+            words = packedWords();
             size = 0;
             tokens = 0;
-            packWords(words);
         }
 
-        private static void packWords(long[] words) {
+        private static long[] packedWords() {
+            long[] packed = new long[WORDS];
             int word = 0;
-            for (int i = 0; i < WORD_TEXT.length() && word < words.length; i++) {
+            for (int i = 0; i < WORD_TEXT.length() && word < WORDS; i++) {
                 char letter = WORD_TEXT.charAt(i);
                 if (letter == ' ') {
                     word++;
                 } else {
-                    words[word] = withLetter(words[word], letter);
+                    packed[word] = withLetter(packed[word], letter);
                 }
             }
+            return packed;
         }
 
         private static long withLetter(long name, char letter) {
@@ -1104,10 +1105,12 @@ public final class TollAlmanac {
             return made;
         }
 
-        // Each round but the last touches one more year at the least, so YEARS rounds reach all.
+        // A round that touches no further year is the last, so YEARS rounds reach all.
         private int touchedYears() {
             int touched = changed;
-            for (int round = 0; round < YEARS; round++) {
+            int before = 0;
+            for (int round = 0; round < YEARS && touched != before; round++) {
+                before = touched;
                 for (int year = 0; year < YEARS; year++) {
                     if (sheets[year] != null && (sheets[year].leaning & touched) != 0) {
                         touched |= 1 << year;
@@ -1387,10 +1390,10 @@ public final class TollAlmanac {
 
         /** PASSED if the year is there, STAYS if its start was opened, else what is thrown. */
         private int demand(int year) {
-            Tariff tariff = editions.tariffs[year];
-            if (tariff.sheet == null) {
+            if (year < 0 || year >= YEARS || editions.tariffs[year].sheet == null) {
                 return THROWN_NO_CLASS;
             }
+            Tariff tariff = editions.tariffs[year];
             if (tariff.phase == WITHDRAWN) {
                 return THROWN_WITHDRAWN;
             }
@@ -1453,7 +1456,7 @@ public final class TollAlmanac {
                 case OP_AT:
                     return push(frame.at);
                 case OP_SETTING:
-                    return push(settings[(int) arg]);
+                    return push(arg >= 0 && arg < settings.length ? settings[(int) arg] : 0);
                 case OP_VALUE:
                     return readConst(arg);
                 case OP_ENTRY:
@@ -1557,15 +1560,15 @@ public final class TollAlmanac {
             if (outcome != PASSED) {
                 return outcome;
             }
-            return pushEntry(frame, editions.tariffs[holder], found % FOUND_STEP);
+            return pushEntry(editions.tariffs[holder], found % FOUND_STEP, holder != frame.year);
         }
 
-        private int pushEntry(Frame frame, Tariff tariff, int table) {
+        private int pushEntry(Tariff tariff, int table, boolean foreign) {
             long i = pop();
             if (!tariff.hasEntry(table, i)) {
                 return THROWN_ENTRY;
             }
-            if (tariff.phase == STARTING && tariff != editions.tariffs[frame.year]) {
+            if (foreign && tariff.phase == STARTING) {
                 tariff.halves++;
             }
             return push(tariff.entries[table * ENTRIES + (int) i]);
