@@ -525,8 +525,9 @@ public final class TollAlmanac {
             }
         }
 
+        // Faults are met in the order of their places, so the first one is the one to tell.
         private void note(int which, int where) {
-            if (fault == 0 || (fault != FAULT_TEXT && where < faultPlace)) {
+            if (fault == 0) {
                 fault = which;
                 faultPlace = where;
             }

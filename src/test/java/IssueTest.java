@@ -11,6 +11,7 @@ public final class IssueTest {
         leans();
         values();
         valuesAlongChains();
+        valuesOfLongNames();
         valuesOnThemselves();
         limits();
         valuesOfClasses();
@@ -210,6 +211,17 @@ public final class IssueTest {
         b.put(1729, "under 1700;const first=1;");
         b.issue();
         Bench.due(NO, b.constant(1700, 0), "a round of thirty");
+    }
+
+    private static void valuesOfLongNames() {
+        Bench b = new Bench();
+        b.put(1729, "const zzzzzzzz=1;const aaaaaaaa=zzzzzzzz+1;const z=3;const a=4;");
+        b.put(1728, "const zzzzzzzz=1729.zzzzzzzz*10;const a=1729.aaaaaaaa*10;const b=1729.z*10;const c=zzzzzzzz+1729.a;");
+        b.issue();
+        long[] want = {10, 20, 30, 14};
+        for (int k = 0; k < 4; k++) {
+            Bench.due(want[k], b.constant(1728, k), "a name of eight letters beside short ones: " + k);
+        }
     }
 
     private static void valuesOnThemselves() {

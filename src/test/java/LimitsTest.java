@@ -8,6 +8,7 @@ public final class LimitsTest {
         deepStart();
         deepThrow();
         deepNesting();
+        thrownMidway();
         longConstants();
         oddArguments(new Bench());
         oddArguments(grown());
@@ -87,6 +88,20 @@ public final class LimitsTest {
         b.issue();
         Bench.due(0, b.need(1700), "need");
         Bench.due(0, b.entry(1700, 0, 0), "2 - 3 * x is 1 for no x");
+    }
+
+    /** What an expression held when something was thrown in it is dropped, however often. */
+    private static void thrownMidway() {
+        Bench b = new Bench();
+        String one = "try{check " + "1+2*(".repeat(10) + "1/0" + ")".repeat(10) + ":1;}else{}";
+        for (int year = 1700; year < 1730; year++) {
+            b.put(year, (year < 1729 ? "under " + (year + 1) + ";" : "") + one.repeat(8) + "table t 1=1+2*(3+4*5);");
+        }
+        b.issue();
+        Bench.due(0, b.need(1700), "all are caught");
+        for (int year = 1700; year < 1730; year++) {
+            Bench.due(47, b.entry(year, 0, 0), "the table of " + year);
+        }
     }
 
     /** Each const of thirty years needs the one behind it, so that all are open at once. */

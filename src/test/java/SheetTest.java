@@ -7,6 +7,7 @@ public final class SheetTest {
         depthOfChoices();
         depthOfTries();
         namesTwice();
+        namesApart();
         years();
         numbers();
         tooMany();
@@ -158,6 +159,30 @@ public final class SheetTest {
         b.faulty(1700, "rule 1;const a=1;rule 1;", 2, 17);
         b.right(1700, "const a=1;const aa=1;table aaa 1=1;table b 1=1;", 2);
         b.right(1700, "const aaaaaaaa=1;const aaaaaaab=1;const aaaaaaa=1;", 0);
+    }
+
+    private static void namesApart() {
+        java.util.Random random = new java.util.Random(5);
+        for (int round = 0; round < 60; round++) {
+            Bench b = new Bench();
+            java.util.Set<String> names = new java.util.LinkedHashSet<>();
+            while (names.size() < 14) {
+                StringBuilder name = new StringBuilder();
+                for (int i = random.nextInt(8); i >= 0; i--) {
+                    name.append((char) ('a' + random.nextInt(random.nextBoolean() ? 26 : 3)));
+                }
+                if (!ModelTokens.WORDS.contains(name.toString())) {
+                    names.add(name.toString());
+                }
+            }
+            StringBuilder text = new StringBuilder();
+            int number = 0;
+            for (String name : names) {
+                text.append(number < 8 ? "const " + name + "=1;" : "table " + name + " 1=1;");
+                number++;
+            }
+            b.right(1700, text.toString(), 6);
+        }
     }
 
     private static void years() {

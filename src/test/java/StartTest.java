@@ -172,6 +172,7 @@ public final class StartTest {
         b.put(1702, "try{check 1:1;}else{table a 1=1;}table b 1=2;");
         b.put(1703, "try{check 0:1;}else{check 0:2;}");
         b.put(1704, "try{check 1729.t[0]:1;}else{}");
+        b.put(1705, "try{check 0:1;}else{check nix:2;}");
         b.issue();
         Bench.due(0, b.need(1700), "caught");
         Bench.due(7, b.entry(1700, 1, 1), "what was built stays");
@@ -190,6 +191,7 @@ public final class StartTest {
         Bench.due(2, b.need(1703), "thrown in else");
         Bench.due(3, b.state(1703, 0), "withdrawn");
         Bench.due(0, b.need(1704), "803 is caught, too");
+        Bench.due(802, b.need(1705), "thrown by the first word of else");
     }
 
     private static void triesInOneAnother() {
@@ -378,17 +380,17 @@ public final class StartTest {
 
     private static void withdrawnWhileOthersStarted() {
         Bench b = new Bench();
-        b.put(1700, "table t 1=7;table u 1=1701.s[0];check 0:9;rule t[0]+1;");
-        b.put(1701, "under 1700;table s 1=t[0];");
-        b.put(1702, "check 1701.t[0]:3;");
+        b.put(1710, "table t 1=7;table u 1=1711.s[0];check 0:9;rule t[0]+1;");
+        b.put(1711, "under 1710;table s 1=t[0];");
+        b.put(1712, "check 1711.t[0]:3;");
         b.issue();
-        Bench.due(9, b.need(1700), "withdrawn at its end");
-        Bench.due(2, b.state(1701, 0), "1701 has started");
-        Bench.due(7, b.entry(1701, 0, 0), "with a half");
-        Bench.due(1, b.state(1700, 3), "one half");
-        Bench.due(804, b.need(1702), "the table's year is needed, too");
+        Bench.due(9, b.need(1710), "withdrawn at its end");
+        Bench.due(2, b.state(1711, 0), "1711 has started");
+        Bench.due(7, b.entry(1711, 0, 0), "with a half");
+        Bench.due(1, b.state(1710, 3), "one half");
+        Bench.due(804, b.need(1712), "the table's year is needed, too");
         b.voyage(1, 1);
-        b.lock(0, 1, 1701, 1);
+        b.lock(0, 1, 1711, 1);
         Bench.due(0, b.bill(0), "a rule reads the tables of its own sheet as they are");
         Bench.due(8, b.line(0, 0), "7 + 1");
     }
