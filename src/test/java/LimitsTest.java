@@ -95,12 +95,12 @@ public final class LimitsTest {
         Bench b = new Bench();
         String one = "try{check " + "1+2*(".repeat(10) + "1/0" + ")".repeat(10) + ":1;}else{}";
         for (int year = 1700; year < 1730; year++) {
-            b.put(year, (year < 1729 ? "under " + (year + 1) + ";" : "") + one.repeat(8) + "table t 1=1+2*(3+4*5);");
+            b.put(year, (year < 1729 ? "under " + (year + 1) + ";" : "") + one.repeat(8) + "table t 1=" + "1+2*(".repeat(11) + "3" + ")".repeat(11) + ";");
         }
         b.issue();
         Bench.due(0, b.need(1700), "all are caught");
         for (int year = 1700; year < 1730; year++) {
-            Bench.due(47, b.entry(year, 0, 0), "the table of " + year);
+            Bench.due(8191, b.entry(year, 0, 0), "the table of " + year);
         }
     }
 

@@ -11,6 +11,7 @@ public final class StartTest {
         checks();
         tries();
         triesInOneAnother();
+        caughtInAnotherStart();
         constsInSteps();
         tablesAlongChains();
         namedTables();
@@ -213,6 +214,19 @@ public final class StartTest {
         Bench.due(6, b.need(1702), "a check behind all tries");
         Bench.due(4, b.entry(1702, 0, 0), "what was built stays in a withdrawn class");
         Bench.due(3, b.need(1703), "out of the last else");
+    }
+
+    private static void caughtInAnotherStart() {
+        Bench b = new Bench();
+        b.put(1700, "table t 2=5+10*1701.u[at]+1702.u[1];");
+        b.put(1701, "try{check 7+1/0:1;}else{table u 2=3+at;}");
+        b.put(1702, "try{check 7+8*1703.u[0]:1;}else{table u 2=100;}");
+        b.put(1703, "check 1-(2<3):6;");
+        b.issue();
+        Bench.due(0, b.need(1700), "need");
+        Bench.due(135, b.entry(1700, 0, 0), "what was worked ahead of the other starts stays");
+        Bench.due(145, b.entry(1700, 0, 1), "5 + 40 + 100");
+        Bench.due(6, b.state(1703, 2), "1703 is withdrawn");
     }
 
     private static void constsInSteps() {
