@@ -116,8 +116,6 @@ public final class TollAlmanac {
     private int voyageCount;
     private int booked;
     private int failed;
-    private int latestFault;
-    private int latestPlace;
 
     public TollAlmanac() {
         tape = new Tape();
@@ -129,8 +127,6 @@ public final class TollAlmanac {
         voyageCount = 0;
         booked = 0;
         failed = 0;
-        latestFault = 0;
-        latestPlace = NONE;
     }
 
     public int feed(int a, int b, int c, int d, int e) {
@@ -160,8 +156,6 @@ public final class TollAlmanac {
         }
         Sheet read = reader.read(index);
         tape.size = 0;
-        latestFault = reader.fault;
-        latestPlace = reader.fault == 0 ? NONE : reader.faultPlace;
         if (read == null) {
             return NONE;
         }
@@ -172,9 +166,9 @@ public final class TollAlmanac {
     public int fault(int what) {
         switch (what) {
             case 0:
-                return latestFault;
+                return reader.fault;
             case 1:
-                return latestPlace;
+                return reader.faultPlace;
             default:
                 return NONE;
         }
@@ -478,6 +472,8 @@ public final class TollAlmanac {
         Reader(Tape tape) {
             this.tape = tape;
             draft = new Draft();
+            fault = 0;
+            faultPlace = NONE;
         }
 
         /** The sheet, or null if there is a fault. */
