@@ -5,10 +5,13 @@ import java.util.List;
 final class Bench {
     static final long NO_VALUE = -2000000000000000L;
     private static int wrong = 0;
+    private static int dues = 0;
+    private static int longest = 0;
 
     private final TollAlmanac program = new TollAlmanac();
     private final Model model = new Model();
     private final List<String> calls = new ArrayList<>();
+    private int made = 0;
 
     /** Ends the test: exit code 1 if an answer was not the one that is due. */
     static void close(String test) {
@@ -25,8 +28,23 @@ final class Bench {
         return wrong;
     }
 
+    /** How many answers were held against the one that is due. */
+    static int dues() {
+        return dues;
+    }
+
+    /** The most calls that one object has had since forgetLongest(). */
+    static int longest() {
+        return longest;
+    }
+
+    static void forgetLongest() {
+        longest = 0;
+    }
+
     /** The answer of the latest call must be this one. */
     static void due(long want, long got, String what) {
+        dues++;
         if (got != want) {
             tell(what + " answered " + got + ", due is " + want);
         }
@@ -42,6 +60,8 @@ final class Bench {
 
     private long same(String call, long got, long modelled) {
         calls.add(call + " -> " + got);
+        made++;
+        longest = Math.max(longest, made);
         if (got != modelled) {
             tell(call + " answered " + got + ", the model says " + modelled + ", after:");
             if (wrong <= 3) {
