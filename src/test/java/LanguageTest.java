@@ -29,7 +29,9 @@ public final class LanguageTest {
             inner(one);
         }
         Bench.due(1, TollAlmanac.class.getDeclaredClasses().length < 12, "at most some twelve classes");
-        text(Files.readString(Path.of("src/main/java/TollAlmanac.java")));
+        String source = Files.readString(Path.of("src/main/java/TollAlmanac.java"));
+        faceOfTheDocument(Files.readString(Path.of("../shared/DOC.md")), source);
+        text(source);
         Bench.close("LanguageTest");
     }
 
@@ -57,6 +59,21 @@ public final class LanguageTest {
         Bench.due(1, all.length == 1 && all[0].getParameterCount() == 0 && Modifier.isPublic(all[0].getModifiers()), "constructor");
         Bench.due(-1, TollAlmanac.NONE, "NONE");
         Bench.due(1, Modifier.isFinal(TollAlmanac.class.getModifiers()), "final");
+    }
+
+    /** Each line of the document's face stands in the class as it stands there, names of parameters too, and no other one. */
+    private static void faceOfTheDocument(String document, String source) {
+        Matcher face = Pattern.compile("(?s)```java\n(.*?)```").matcher(document);
+        int lines = 0;
+        for (String line : face.find() ? face.group(1).split("\n") : new String[0]) {
+            if (line.stripLeading().startsWith("public ")) {
+                lines++;
+                String own = line.endsWith(");") ? line.replace(");", ") {") : line;
+                Bench.due(1, source.contains("\n" + own + "\n"), "the line of the face " + line);
+            }
+        }
+        Bench.due(20, lines, "lines of the face");
+        Bench.due(lines, Pattern.compile("\\bpublic\\b").matcher(source).results().count(), "public members");
     }
 
     private static String signature(Method one) {

@@ -13,6 +13,7 @@ public final class PromiseBoundsTest {
     }
 
     private static void tape() {
+        Sentences.holds("An object is used for at most 512 calls after it has been made", PromiseBoundsTest::allCalls);
         Sentences.holds("`NONE = -1`: There is none.", PromiseBoundsTest::none);
         Sentences.holds("No SHEETS, no classes, EDITION 0; no VOYAGES.", PromiseBoundsTest::newObject);
         Sentences.holds("Twenty bytes come behind the tape, of each number the highest first: how many it has.", PromiseBoundsTest::feed);
@@ -68,6 +69,28 @@ public final class PromiseBoundsTest {
         Sentences.holds("-2000000000000000 if there is none such: no bill(), it did not come out, or for another what.", PromiseBoundsTest::lineNone);
         Sentences.holds("What 0: the EDITION, 1: how many starts there were, 2: bills BOOKED, 3: that did not come out, 4: VOYAGES.", PromiseBoundsTest::count);
         Sentences.holds("4: VOYAGES. NONE for another what.", PromiseBoundsTest::countOfAnotherWhat);
+    }
+
+    /** All thirty years start in each round of three calls, up to the last call that is promised an answer. */
+    private static void allCalls(Bench b) {
+        b.put(1700, "");
+        for (int year = 1701; year < 1730; year++) {
+            b.put(year, "under " + (year - 1) + ";");
+        }
+        Bench.due(30, b.issue(), "the first edition");
+        Bench.due(0, b.need(1729), "thirty starts");
+        int editions = 1;
+        for (int calls = 2 + 29 * 3 + 2; calls + 3 + 4 <= 512; calls += 3) {
+            b.sheet(1700);
+            Bench.due(30, b.issue(), "all lean on 1700");
+            Bench.due(0, b.need(1729), "thirty starts");
+            editions++;
+        }
+        Bench.due(2, b.state(1729, 0), "started");
+        Bench.due(editions, b.count(0), "editions");
+        Bench.due(1700, b.started(299), "the last start that is kept");
+        Bench.due(editions * 30, b.count(1), "all starts");
+        Bench.due(512, Bench.longest(), "calls");
     }
 
     private static void none(Bench b) {
